@@ -1692,16 +1692,12 @@ public final class RentDivision {
                 return false;
             }
             flat.incomes[person] = number;
-            return readWorths(flat.worths[person]);
-        }
-
-        private boolean readWorths(int[] worths) {
             for (int room = 0; room < flat.roomCount; room++) {
                 if (tokens.isWord("no")) {
-                    worths[room] = REFUSED;
+                    flat.worths[person][room] = REFUSED;
                     tokens.advance();
                 } else if (readNumber(MOST_VALUE)) {
-                    worths[room] = number;
+                    flat.worths[person][room] = number;
                 } else {
                     return false;
                 }

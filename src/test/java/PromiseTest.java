@@ -109,6 +109,14 @@ public final class PromiseTest {
         due("3 old names are gone", x.roomNamed(Check.letters("big")), NONE);
         x.moveIn(0);
         due("3 values are new", x.proposedValue(), 7);
+        due("21 a proposal", x.hasProposal(), true);
+        Check.load(x, "room q;person z 5 7;set share 8;set auto 1;set method low;");
+        due("21 nobody lives there", x.hasProposal(), false);
+        Check.load(x, "person z 5;");
+        due("3 initial settings behind others, METHOD", x.getSetting(RentDivision.METHOD), RentDivision.MIDDLE);
+        due("3 initial settings behind others, SHARE", x.getSetting(RentDivision.SHARE), 0);
+        due("3 initial settings behind others, AUTO", x.getSetting(RentDivision.AUTO), 0);
+        due("3 settings can be given again", Check.load(x, "set share 8;set auto 1;set method low;lease 1;deposit 1;"), 5);
     }
 
     private static void promise3LoadKeeps() {
@@ -714,6 +722,7 @@ public final class PromiseTest {
         due("43 ann and bob", x.wouldSwap(ANN, BOB), true);
         due("43 bob and ann", x.wouldSwap(BOB, ANN), true);
         due("43 one of them only", x.wouldSwap(ANN, CID), false);
+        due("43 the other one only", x.wouldSwap(CID, ANN), false);
         due("43 the same", x.wouldSwap(ANN, ANN), false);
         due("43 no room", x.wouldSwap(ANN, DOT), false);
         Check.dueThrow("43 person", () -> x.wouldSwap(-1, 0) ? 1 : 0);
@@ -777,6 +786,8 @@ public final class PromiseTest {
         due("46 payments stay", x.paid(ANN, 0), 6 * 389);
         due("47 one pays less", x.arrears(), 209);
         due("46 the others pay", x.paid(BOB, 2), 7);
+        x.undo();
+        due("47 undone", x.arrears(), -80);
     }
 
     private static void transfer(RentDivision x, int transfer, int payer, int getter, int amount) {
@@ -859,6 +870,31 @@ public final class PromiseTest {
         transfer(x, 1, 5, RentDivision.LANDLORD, 50);
         transfer(x, 2, 0, 1, 25);
         transfer(x, 3, 2, 3, 25);
+    }
+
+    /** SHARE is 100 and nobody likes another room, so that payments go by incomes alone; each party takes part. */
+    private static void promise49Most() {
+        RentDivision x = Check.loaded(times("room #;", 6) + "person a 5 1 1 1 1 1 1;person b 7 1 1 1 1 1 1;"
+                + "person c 11 1 1 1 1 1 1;person d 13 1 1 1 1 1 1;person e 18 1 1 1 1 1 1;person f 46 1 1 1 1 1 1;"
+                + "person g 11 1 1 1 1 1 1;person h 19 1 1 1 1 1 1;person i 33 1 1 1 1 1 1;person j 37 1 1 1 1 1 1;"
+                + "set share 100;lease 100;deposit 100;");
+        for (int p = 6; p < 10; p++) {
+            x.moveIn(p);
+        }
+        x.divide();
+        x.settle();
+        for (int p = 9; p >= 0; p--) {
+            due("49 out and in", p > 5 ? x.moveOut(p) : x.moveIn(p), p > 5 ? p - 6 : 6 - p);
+        }
+        x.divide();
+        x.setDeposit(200);
+        int[][] all = {{5, 10, 92}, {4, 9, 36}, {3, 8, 26}, {2, 7, 19}, {1, 6, 11}, {0, 10, 8}, {1, 8, 3}, {2, 8, 3}, {0, 8, 1}, {0, 9, 1}};
+        due("49 ten", x.transferCount(), all.length);
+        for (int i = 0; i < all.length; i++) {
+            transfer(x, i, all[i][0], all[i][1], all[i][2]);
+        }
+        due("62 ten", x.settle(), 10);
+        due("62 none then", x.settle(), 0);
     }
 
     private static void promises51and52() {
@@ -1000,8 +1036,10 @@ public final class PromiseTest {
         due("60 bob's payment", x.payment(BOB), 389);
         due("60 who is in big", x.personIn(BIG), BOB);
         due("60 cid stays", x.roomOf(CID), TOP);
+        due("60 a change", x.undoCount(), 8);
         x.undo();
         due("60 undone", x.payment(ANN), 389);
+        due("60 values stay", x.valueOf(ANN, MID), 500);
     }
 
     private static void promise61PassMonths() {
@@ -1176,6 +1214,7 @@ public final class PromiseTest {
         promises48to50();
         promise48Weights();
         promise50Order();
+        promise49Most();
         promises51and52();
         promises53and54();
         promises55to58();

@@ -24,7 +24,15 @@ public final class RandomTest {
         return any(100) < percent;
     }
 
+    private static int odd() {
+        int[] odd = {Integer.MIN_VALUE, Integer.MIN_VALUE + 1, Integer.MAX_VALUE, Integer.MAX_VALUE - 1, -2, 1 << 16, 1 << 30};
+        return odd[any(odd.length)];
+    }
+
     private static int number(int most) {
+        if (chance(1)) {
+            return odd();
+        }
         if (chance(4)) {
             return most + 1 + any(3);
         }
@@ -61,7 +69,7 @@ public final class RandomTest {
     }
 
     private static String digits(int most) {
-        int value = chance(99) ? Math.min(most, number(most)) : most + 1 + any(5);
+        int value = chance(99) ? Math.max(0, Math.min(most, number(most))) : most + 1 + any(5);
         String text = Integer.toString(value);
         return chance(3) ? "000000000000000000000" + text : chance(1) && chance(30) ? text + "99999999999999999999" : text;
     }
@@ -167,7 +175,7 @@ public final class RandomTest {
     private static void loadAny() {
         String text = text();
         feed(text);
-        int length = chance(95) ? text.length() : any(text.length() + 60) - 10;
+        int length = chance(95) ? text.length() : chance(95) ? any(text.length() + 60) - 10 : odd();
         same("load of '" + text + "'", model -> model ? m.load(length) : x.load(length));
         same("errorPosition", model -> model ? m.errorPosition() : x.errorPosition());
     }
@@ -227,8 +235,9 @@ public final class RandomTest {
         same("wouldSwap", model -> model ? m.wouldSwap(h, g) : x.wouldSwap(h, g) ? 1 : 0);
         same("envyOf", model -> model ? m.envyOf(p, q) : x.envyOf(p, q));
         same("wouldSwap", model -> model ? m.wouldSwap(p, q) : x.wouldSwap(p, q) ? 1 : 0);
-        same("transfer", model -> model ? m.transfer(p, q % 4) : x.transfer(p, q % 4));
-        same("plan", model -> model ? m.plan(p, q % 4) : x.plan(p, q % 4));
+        int what = chance(95) ? q % 4 : odd();
+        same("transfer", model -> model ? m.transfer(p, what) : x.transfer(p, what));
+        same("plan", model -> model ? m.plan(p, what) : x.plan(p, what));
     }
 
     private static void compareRoom(int r) {
@@ -245,7 +254,7 @@ public final class RandomTest {
             comparePairs(anyPerson(), chance(50) ? anyPerson() : anyRoom());
             compareRoom(anyRoom());
         }
-        int percent = any(103) - 1;
+        int percent = chance(98) ? any(103) - 1 : odd();
         same("affordable", model -> model ? m.affordable(percent) : x.affordable(percent));
         if (chance(20)) {
             same("leastShare", model -> model ? m.leastShare(percent) : x.leastShare(percent));
@@ -268,12 +277,12 @@ public final class RandomTest {
 
     private static int anyPerson() {
         int people = m.s.people.size();
-        return people > 0 && chance(90) ? any(people) : any(13) - 1;
+        return people > 0 && chance(90) ? any(people) : chance(95) ? any(13) - 1 : odd();
     }
 
     private static int anyRoom() {
         int rooms = m.s.rooms.size();
-        return rooms > 0 && chance(90) ? any(rooms) : any(9) - 1;
+        return rooms > 0 && chance(90) ? any(rooms) : chance(95) ? any(9) - 1 : odd();
     }
 
     /** A person with a room in the division, mostly, if there is one. */
@@ -319,7 +328,7 @@ public final class RandomTest {
                 same("setDeposit", model -> model ? m.setDeposit(money) : x.setDeposit(money));
                 break;
             case 12: {
-                int setting = chance(95) ? any(3) : any(6) - 2;
+                int setting = chance(95) ? any(3) : chance(90) ? any(6) - 2 : odd();
                 int to = setting == 1 ? any(103) - 1 : any(4) - (chance(90) ? 0 : 1);
                 same("setSetting", model -> model ? m.setSetting(setting, to) : x.setSetting(setting, to));
                 break;
@@ -331,7 +340,7 @@ public final class RandomTest {
                 same("swapRooms", model -> model ? m.swapRooms(h, q) : x.swapRooms(h, q));
                 break;
             case 16: {
-                int months = late ? 24 : chance(90) ? 1 + any(4) : any(27) - 1;
+                int months = late ? 24 : chance(90) ? 1 + any(4) : chance(95) ? any(27) - 1 : odd();
                 same("passMonths", model -> model ? m.passMonths(months) : x.passMonths(months));
                 break;
             }
