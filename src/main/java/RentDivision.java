@@ -31,9 +31,6 @@ public final class RentDivision {
     /** Stands where the value of a room would, if the person refuses the room. */
     private static final int REFUSED = -1;
 
-    private final byte[] input;
-    private int inputLength;
-    private int errorPlace;
     private final Loader loader;
     private final Roster roster;
     private final Flat flat;
@@ -46,10 +43,7 @@ public final class RentDivision {
     private final Page page;
 
     public RentDivision() {
-        input = new byte[MOST_BYTES];
-        inputLength = 0;
-        errorPlace = NOT_FOUND;
-        loader = new Loader(input);
+        loader = new Loader();
         roster = new Roster();
         flat = new Flat();
         history = new History();
@@ -63,33 +57,24 @@ public final class RentDivision {
     // The text that is read
 
     public int feed(int a, int b, int c, int d, int e) {
-        if (inputLength + BYTES_A_FEED > MOST_BYTES) {
+        Tokens input = loader.tokens;
+        if (input.held + BYTES_A_FEED > MOST_BYTES) {
             return FULL;
         }
-        append(a);
-        append(b);
-        append(c);
-        append(d);
-        append(e);
-        return inputLength;
-    }
-
-    private void append(int fourBytes) {
-        for (int shift = 24; shift >= 0; shift -= 8) {
-            if (inputLength >= 0 && inputLength < input.length) {
-                input[inputLength] = (byte) (fourBytes >>> shift);
-                inputLength++;
-            }
-        }
+        input.append(a);
+        input.append(b);
+        input.append(c);
+        input.append(d);
+        input.append(e);
+        return input.held;
     }
 
     public int load(int length) {
-        if (length < 0 || length > inputLength) {
+        if (length < 0 || length > loader.tokens.held) {
             return BAD_VALUE;
         }
         int result = loader.read(length);
-        inputLength = 0;
-        errorPlace = loader.errorPlace;
+        loader.tokens.forget();
         if (result < 0) {
             return result;
         }
@@ -101,7 +86,7 @@ public final class RentDivision {
     }
 
     public int errorPosition() {
-        return errorPlace;
+        return loader.errorPlace;
     }
 
     // The flat
@@ -1461,28 +1446,41 @@ public final class RentDivision {
         }
     }
 
-    /** The tokens of the input, one at a time. */
+    /** The input buffer and the tokens of its text, one at a time. */
     private static final class Tokens {
         private static final int END = 0, BLANK = 1, WORD = 2, NUMBER = 3, SEMICOLON = 4, OTHER = 5;
         /** Stands for all integers that are greater, which no range has in it. */
         private static final int TOO_MUCH = 1000000;
 
         private final byte[] text;
+        private int held;
         private int length;
         private int start;
         private int end;
         private int kind;
 
-        Tokens(byte[] text) {
-            this.text = text;
+        Tokens() {
+            text = new byte[MOST_BYTES];
+            held = 0;
             length = 0;
             start = 0;
             end = 0;
             kind = END;
         }
 
+        void append(int fourBytes) {
+            for (int shift = 24; shift >= 0 && held < text.length; shift -= 8) {
+                text[held] = (byte) (fourBytes >>> shift);
+                held++;
+            }
+        }
+
+        void forget() {
+            held = 0;
+        }
+
         void open(int textLength) {
-            length = Math.max(0, Math.min(textLength, text.length));
+            length = Math.max(0, Math.min(textLength, held));
             end = 0;
             advance();
         }
@@ -1564,8 +1562,8 @@ public final class RentDivision {
         private int error;
         private int errorPlace;
 
-        Loader(byte[] text) {
-            tokens = new Tokens(text);
+        Loader() {
+            tokens = new Tokens();
             flat = new Flat();
             roster = new Roster();
             leaseGiven = false;
