@@ -4,12 +4,22 @@ import java.nio.charset.StandardCharsets;
 final class Check {
     private static int right = 0;
     private static int wrong = 0;
+    private static String about = "";
 
     private Check() {
     }
 
     interface Call {
         long answer();
+    }
+
+    /** What is told ahead of each answer that is not due. */
+    static void about(String what) {
+        about = what;
+    }
+
+    static int answers() {
+        return right + wrong;
     }
 
     static void due(String what, long got, long want) {
@@ -19,7 +29,7 @@ final class Check {
         }
         wrong++;
         if (wrong <= 50) {
-            System.out.println(what + " answered " + got + ", due is " + want);
+            System.out.println(about + what + " answered " + got + ", due is " + want);
         }
     }
 
