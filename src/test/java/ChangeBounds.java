@@ -137,7 +137,7 @@ final class ChangeBounds extends Bounds {
         });
     }
 
-    /** Rich, but for cid who is GONE, so that each change can be made; the first ten are of one who moves, and of values. */
+    /** Rich, but cid is GONE, so that each of CHANGES can be made. */
     private static RentDivision open() {
         RentDivision x = rich();
         x.moveOut(CID);
@@ -150,6 +150,7 @@ final class ChangeBounds extends Bounds {
         x -> x.setSetting(AUTO, 1), RentDivision::divide, x -> x.swapRooms(ANN, BOB), x -> x.passMonths(1), x -> x.passMonths(24),
         RentDivision::settle};
 
+    /** What makes nothing different in rich. */
     private static final Ask[] SAME = {x -> x.setValue(ANN, BIG, 600), x -> x.setIncome(ANN, 3100), x -> x.setLease(1010),
         x -> x.setDeposit(700), x -> x.setSetting(METHOD, MIDDLE), x -> x.setSetting(SHARE, 10), x -> x.setSetting(AUTO, 0)};
 
@@ -164,14 +165,10 @@ final class ChangeBounds extends Bounds {
         holds("CHANGES", "The methods moveIn, moveOut, setValue, setRefusal, setIncome, setLease, setDeposit, setSetting, divide, swapRooms, "
                 + "passMonths and settle make changes; each call is one change.", () -> {
             for (int i = 0; i < CHANGES.length; i++) {
-                RentDivision x = open();
-                for (int undos = 0; undos < 4; undos++) {
-                    x.undo();
-                }
+                RentDivision x = divided();
                 x.moveOut(CID);
-                Ask change = CHANGES[i];
-                due("change " + i + " has no error", change.of(x) >= 0, true);
-                due("change " + i + " is one", x.undoCount(), 8);
+                due("change " + i + " has no error", CHANGES[i].of(x) >= 0, true);
+                due("change " + i + " is one, behind five", x.undoCount(), 6);
             }
             RentDivision x = rich();
             for (int undos = 0; undos < 5; undos++) {
@@ -194,6 +191,7 @@ final class ChangeBounds extends Bounds {
                 same("change " + i + " undone leaves the buffers", Picture.ofBuffers(undone), Picture.ofBuffers(ChangeBounds::open));
             }
             undoLeavesBuffers();
+            undoOfTheLast();
         });
         holds("CHANGES", "At most the 10 latest changes are kept.", () -> {
             for (int made : new int[] {1, 9, 10, 11, 12, 20, 25}) {
@@ -213,7 +211,7 @@ final class ChangeBounds extends Bounds {
         });
     }
 
-    /** An undo in a new flat, then in one with changes, then one more each time. */
+    /** Makes so many changes and undoes all that are kept. */
     private static void latestTen(int made) {
         RentDivision x = new RentDivision();
         for (int lease = 1; lease <= made; lease++) {
@@ -231,6 +229,27 @@ final class ChangeBounds extends Bounds {
         due("a change then", x.undoCount(), 1);
         due("its undo", x.undo(), 0);
         due("the lease of then", x.lease(), made - kept);
+    }
+
+    /** What the last of ten people has comes back as well. */
+    private static void undoOfTheLast() {
+        String before = Picture.ofState(ChangeBounds::withStakes);
+        Ask[] changes = {x -> x.moveOut(9), x -> x.moveIn(3), x -> x.setIncome(9, 0), x -> x.setValue(9, 5, 9999), x -> x.setRefusal(9, 5, true),
+            x -> x.swapRooms(8, 9), x -> x.passMonths(2), RentDivision::divide, RentDivision::settle};
+        for (int i = 0; i < changes.length; i++) {
+            Ask change = changes[i];
+            due("change " + i + " has no error", change.of(withStakes()) >= 0, true);
+            same("change " + i + " of the last undone", Picture.ofState(() -> behind(withStakes(), change, RentDivision::undo)), before);
+        }
+    }
+
+    /** Full, with stakes and a month that was paid, and person 4 GONE, so that there is something to settle. */
+    private static RentDivision withStakes() {
+        RentDivision x = full();
+        x.settle();
+        x.passMonths(1);
+        x.moveOut(4);
+        return x;
     }
 
     private static void undoLeavesBuffers() {
@@ -582,6 +601,7 @@ final class ChangeBounds extends Bounds {
             written(x, "");
             written(new RentDivision(), "");
             written(behind(loaded("room a;room b;person p 5 99 0;person q 5 50 1;lease 1;", 0, 1), RentDivision::divide), "p:a 25;q:b -24");
+            written(behind(loaded("room a;room b;person p 1 9 0;person q 1 7 5;set method low;", 0, 1), RentDivision::divide), "p:a 1;q:b -1");
             written(longest(), "aaaaaa:aaaaaz 24998;bbbbbb:bbbbbz 14999;cccccc:cccccz 5000;dddddd:dddddz -5000;eeeeee:eeeeez -14999;ffffff:fffffz -24998");
             for (int lease : new int[] {0, 1, 9, 10, 99, 100, 999, 1000, 9999, 10000, 99999}) {
                 written(behind(loaded("room a;person p 5 1;lease " + lease + ";", 0), RentDivision::divide), "p:a " + lease);

@@ -59,6 +59,7 @@ final class DivisionBounds extends Bounds {
         holds("Promise 36", "Returns the index of the person; NOT_FOUND if nobody has it.", () -> {
             due("the first room", full().personIn(0), 4);
             due("the last room", full().personIn(5), 9);
+            due("the first person", divided().personIn(BIG), ANN);
             due("no division", lived().personIn(TOP), NONE);
             RentDivision x = full();
             x.moveOut(9);
@@ -125,6 +126,10 @@ final class DivisionBounds extends Bounds {
             due("refused", x.envyOf(BOB, ANN), 0);
             x.setRefusal(ANN, BIG, true);
             due("the own room is worth 0 then", x.envyOf(ANN, BOB), 301);
+            x.setRefusal(ANN, MID, true);
+            due("a room that costs less, refused", x.envyOf(ANN, BOB), 0);
+            x.setRefusal(ANN, MID, false);
+            due("a room that costs less, worth as little", x.envyOf(ANN, BOB), 101);
             due("payments below 0", below0().envyOf(0, 1), 0);
         });
         holds("Promise 39", "Returns the amount; NOT_FOUND if one of them has no room in the division (checked first); 0 if both are the same.", () -> {
@@ -142,6 +147,15 @@ final class DivisionBounds extends Bounds {
             due("no division", lived().totalEnvy(), 0);
             due("nobody envies", divided().totalEnvy(), 0);
             due("two envy", mutual().totalEnvy(), 2);
+            RentDivision y = divided();
+            y.setValue(ANN, MID, 502);
+            due("the first envies", y.totalEnvy(), 3);
+            y.setValue(BOB, BIG, 502);
+            due("the first is envied", y.totalEnvy(), 4);
+            y.moveOut(CID);
+            y.moveIn(DOT);
+            y.setValue(DOT, BIG, 9999);
+            due("one without room envies nobody", y.totalEnvy(), 4);
             RentDivision x = full();
             for (int person = 4; person < 10; person++) {
                 for (int room = 0; room < 6; room++) {
@@ -167,6 +181,9 @@ final class DivisionBounds extends Bounds {
             due("bits 0 and 1", x.enviers(2), 3);
             x.setValue(0, 2, 5);
             due("as much is no envy", x.enviers(2), 2);
+            RentDivision y = full();
+            y.setValue(3, 0, 9999);
+            due("one without room envies nobody", y.enviers(4), 0);
         });
         checksPerson("Promise 41", RentDivision::enviers);
         holds("Promise 42", "Returns the person who is envied by the most people in the division. Ties are broken by lower index.", () -> {
@@ -180,6 +197,9 @@ final class DivisionBounds extends Bounds {
             due("the last is envied by one", x.mostEnvied(), 8);
             x.setRefusal(8, 5, true);
             due("one envies", x.mostEnvied(), 8);
+            RentDivision y = divided();
+            y.setValue(CID, BIG, 500);
+            due("the first of all", y.mostEnvied(), ANN);
         });
         holds("Promise 42", "Returns the index of the person; NOT_FOUND if nobody envies.", () -> {
             due("nobody envies", divided().mostEnvied(), NONE);
@@ -345,6 +365,24 @@ final class DivisionBounds extends Bounds {
         return x;
     }
 
+    /** All people take part in the transfers: four have gone with stakes of 11, 19, 33 and 37, six must pay. */
+    private static RentDivision ten() {
+        int[] incomes = {5, 7, 11, 13, 18, 46, 11, 19, 33, 37};
+        StringBuilder text = new StringBuilder(times("room #;", 6));
+        for (int person = 0; person < 10; person++) {
+            text.append("person ").append((char) ('a' + person)).append(' ').append(incomes[person]).append(" 1 1 1 1 1 1;");
+        }
+        RentDivision x = loaded(text + "set share 100;lease 100;deposit 100;", 6, 7, 8, 9);
+        x.divide();
+        x.settle();
+        for (int person = 9; person >= 0; person--) {
+            due("out and in", person > 5 ? x.moveOut(person) : x.moveIn(person), person > 5 ? person - 6 : 6 - person);
+        }
+        x.divide();
+        x.setDeposit(200);
+        return x;
+    }
+
     private static void transfers() {
         holds("DEPOSITS", "The transfers: as long as someone must pay, the one who must pay the most pays the one who gets the most, "
                 + "each less what they have paid or got, the lesser one of both amounts; ties are broken by lower index.", () -> {
@@ -365,6 +403,7 @@ final class DivisionBounds extends Bounds {
             transfers(y, new int[][] {{10, 0, 42}, {2, 1, 21}, {2, 0, 18}});
         });
         holds("Promise 49", "Returns the number of transfers.", () -> {
+            transfers(ten(), new int[][] {{5, 10, 92}, {4, 9, 36}, {3, 8, 26}, {2, 7, 19}, {1, 6, 11}, {0, 10, 8}, {1, 8, 3}, {2, 8, 3}, {0, 8, 1}, {0, 9, 1}});
             due("a new flat", new RentDivision().transferCount(), 0);
             due("a deposit, but nobody is LIVING", flat().transferCount(), 0);
             due("people, but no deposit", loaded("room a;person p 1 1;", 0).transferCount(), 0);
@@ -395,6 +434,8 @@ final class DivisionBounds extends Bounds {
             }
             due("the last of 6", full().transfer(5, 0), 9);
             due("the first of 6", full().transfer(0, 0), 4);
+            due("the last of 10", ten().transfer(9, 2), 1);
+            thrown("transfer 10 of 10", DivisionBounds::ten, x -> x.transfer(10, 0));
         });
     }
 }

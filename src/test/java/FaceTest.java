@@ -69,8 +69,13 @@ public final class FaceTest {
         }
         Check.dueText("face", String.join("\n", got), String.join("\n", due));
         Check.due("lines of the face", due.size(), 1 + 20 + 64);
+        for (Class<?> inside : RentDivision.class.getDeclaredClasses()) {
+            for (Method method : inside.getDeclaredMethods()) {
+                hidden.add(method.getName());
+            }
+        }
         for (Method method : RentDivision.class.getMethods()) {
-            Check.due("a private method named " + method.getName(), hidden.contains(method.getName()), false);
+            Check.due("a hidden method named " + method.getName(), hidden.contains(method.getName()), false);
         }
     }
 

@@ -96,6 +96,9 @@ final class ProposalBounds extends Bounds {
             due("one who refuses all", loaded("room a;person p 1 no;", 0).hasProposal(), false);
             due("three for two rooms", loaded("room a;room b;room c;person p 1 1 1 no;person q 1 1 1 no;person r 1 1 1 no;", 0, 1, 2).hasProposal(), false);
             due("just a choice", loaded("room a;room b;room c;person p 1 1 1 no;person q 1 1 no no;person r 1 no no 0;", 0, 1, 2).hasProposal(), true);
+            String last = "person f 1 1 1 1 1 1 no;";
+            due("six for five of six rooms", six(times("room #;", 6) + times("person # 1 1 1 1 1 1 no;", 5) + last).hasProposal(), false);
+            due("six for six rooms", six(times("room #;", 6) + times("person # 1 1 1 1 1 1 0;", 5) + last).hasProposal(), true);
             due("no rooms", Check.loaded("person a 1;").hasProposal(), false);
             due("all are WAITING", flat().hasProposal(), false);
             RentDivision x = loaded("room a;person p 1 0;", 0);
@@ -287,6 +290,14 @@ final class ProposalBounds extends Bounds {
                 due("LOW of big", x.extreme(BIG, false), 12000);
                 due("HIGH of mid", x.extreme(MID, true), -12000);
             }
+            x.setValue(BOB, BIG, 450);
+            due("LOW of big then", x.extreme(BIG, false), 6000);
+            due("HIGH of mid then", x.extreme(MID, true), -6000);
+            x.setValue(BOB, BIG, 400);
+            x.setValue(CID, BIG, 300);
+            due("LOW of big without envy", x.extreme(BIG, false), 0);
+            due("HIGH of mid without envy", x.extreme(MID, true), 0);
+            due("HIGH of top without envy", x.extreme(TOP, true), 0);
         });
         holds("Promise 25", noPrice, () -> {
             refused("no such choice, LOW", ProposalBounds::without, x -> x.extreme(0, false), NO_NUMBER);
@@ -347,6 +358,10 @@ final class ProposalBounds extends Bounds {
             RentDivision x = alike(3, "");
             x.setValue(0, 0, 6);
             due("the second and the third", x.leastSurplus(), 1);
+            x.setValue(0, 0, 4);
+            x.setRefusal(0, 1, true);
+            x.setRefusal(0, 2, true);
+            due("the first alone", x.leastSurplus(), 0);
         });
         holds("Promise 31", "Returns the index of the person; NOT_FOUND if there is no proposal.", () -> {
             refused("no such choice", ProposalBounds::without, RentDivision::leastSurplus, NONE);
@@ -442,6 +457,10 @@ final class ProposalBounds extends Bounds {
         holds("Promise 34", "Returns 0 to 9999; NOT_FOUND if the person is not LIVING, or with no value.", () -> {
             RentDivision x = loaded("room a;room b;person p 1 no 0;person q 1 9999 0;person r 1 1 1;person s 1 1 1;", 0, 1, 3);
             due("0", x.leastValue(1, 0), 0);
+            due("0, though there is another choice", loaded("room a;room b;person p 1 0 0;person q 1 0 2;", 0, 1).leastValue(0, 0), 0);
+            due("as much as the other room, by the lower index", loaded("room a;room b;person p 1 9 9;person q 1 9 9;", 0, 1).leastValue(1, 1), 9);
+            due("0 is a tie, by the lower index", loaded("room a;room b;person p 1 0 0;person q 1 0 0;", 0, 1).leastValue(0, 0), 0);
+            due("0 is a tie that does not give it", loaded("room a;room b;person p 1 0 0;person q 1 0 0;", 0, 1).leastValue(0, 1), 1);
             due("9999, by the lower index", x.leastValue(0, 0), 9999);
             x.setValue(0, 1, 1);
             due("10000 by the lower index", x.leastValue(0, 0), NONE);

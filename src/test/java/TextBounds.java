@@ -388,6 +388,7 @@ final class TextBounds extends Bounds {
             same("as in a new object", loaded, Picture.of(Bounds::flat));
             RentDivision x = rich();
             Check.load(x, "set method low;set share 5;set auto 1;lease 8;deposit 9;");
+            due("the same settings once more", Check.load(x, "set method low;set share 5;set auto 1;lease 8;deposit 9;"), 5);
             Check.load(x, "room r;person a 1 1;");
             due("METHOD", x.getSetting(METHOD), MIDDLE);
             due("SHARE", x.getSetting(SHARE), 0);
@@ -402,6 +403,10 @@ final class TextBounds extends Bounds {
             for (int what = 0; what < 3; what++) {
                 due("paid " + what, x.paid(0, what), 0);
             }
+            RentDivision y = lived();
+            due("a proposal", y.hasProposal(), true);
+            Check.load(y, FLAT);
+            due("nobody is LIVING then", y.hasProposal(), false);
         });
         holds("Promise 3", "After a successful load nothing can be undone; what was written to the output buffer stays.", () -> {
             RentDivision x = rich();
