@@ -122,29 +122,6 @@ public final class FaceTest {
         never(program, "import (?!java\\.util\\.Arrays;)");
         never(program, "throw new (?!IndexOutOfBoundsException\\(\"[a-z ]+\"\\);)");
         never(program, "[^\\x00-\\x7f]");
-        methods(program);
-    }
-
-    /** Goes by the indentation: a method begins at a line that ends with a brace and ends where one closes as far in. */
-    private static void methods(String program) {
-        String indent = null;
-        String name = "";
-        int start = 0;
-        String[] lines = program.split("\n");
-        for (int i = 0; i < lines.length; i++) {
-            Matcher head = Pattern.compile("^( {4}| {8})(?! )[\\w\\[\\] ]*?(\\w+)\\((.*)\\)( throws \\w+)? \\{$").matcher(lines[i]);
-            if (indent == null && head.matches()) {
-                indent = head.group(1);
-                name = head.group(2);
-                start = i;
-                Check.due(name + " has at most seven parameters", head.group(3).split(",").length <= 7, true);
-            } else if (indent != null && lines[i].equals(indent + "}")) {
-                Check.due(name + " is short", i - start < 60, true);
-                indent = null;
-            } else if (indent != null && Pattern.compile("\\bnew (?!IndexOutOf)").matcher(lines[i]).find()) {
-                Check.due("only constructors make objects: " + name, Character.isUpperCase(name.charAt(0)), true);
-            }
-        }
     }
 
     public static void main(String[] args) throws IOException, IllegalAccessException {
